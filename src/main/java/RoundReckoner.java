@@ -873,7 +873,18 @@ public final class RoundReckoner {
             if (head.tally == NO_TALLY) {
                 return fail(wordPlace);
             }
-            return head.tally == WAYS || readTallied(head);
+            if (head.tally == WAYS) {
+                return true;
+            }
+            if (!isCapital(look())) {
+                return fail(at);
+            }
+            if (!readWord()) {
+                return false;
+            }
+            head.tallyPlace = wordPlace;
+            head.tallySlot = meet(word);
+            return head.tallySlot >= 0 || fail(wordPlace);
         }
 
         private static int tallyOf(long tallyWord) {
@@ -887,18 +898,6 @@ public final class RoundReckoner {
                 return LEAST;
             }
             return tallyWord == MAX_WORD ? GREATEST : NO_TALLY;
-        }
-
-        private boolean readTallied(Goal head) {
-            if (!isCapital(look())) {
-                return fail(at);
-            }
-            if (!readWord()) {
-                return false;
-            }
-            head.tallyPlace = wordPlace;
-            head.tallySlot = meet(word);
-            return head.tallySlot >= 0 || fail(wordPlace);
         }
 
         private boolean readConstant(Goal goal) {
@@ -1039,8 +1038,9 @@ public final class RoundReckoner {
                 if (look() == '(') {
                     return readAtom(goal, ATOM);
                 }
-                long name = word;
-                return readSign(goal) && putName(goal, name, place) && readValue(goal);
+                // What is no ATOM'S NAME is a CONSTANT'S, and counts as read even if no sign follows.
+                goal.start(SAME, 0L, place);
+                return putName(goal, word, place) && readSign(goal) && readValue(goal);
             }
             if (!isDigit(sign) && sign != '-') {
                 return fail(at);
@@ -1048,12 +1048,9 @@ public final class RoundReckoner {
             if (!readNumber()) {
                 return false;
             }
-            long first = number;
-            if (!readSign(goal)) {
-                return false;
-            }
-            goal.put(CONSTANT, place, 0, first);
-            return readValue(goal);
+            goal.start(SAME, 0L, place);
+            goal.put(CONSTANT, place, 0, number);
+            return readSign(goal) && readValue(goal);
         }
 
         /** Reads < or = or <> . */
@@ -1062,7 +1059,7 @@ public final class RoundReckoner {
             if (sign != '<' && sign != '=') {
                 return fail(at);
             }
-            goal.start(sign == '<' ? LESS : SAME, 0L, at);
+            goal.kind = sign == '<' ? LESS : SAME;
             at++;
             if (sign == '<' && at < length && tape[at] == '>') {
                 goal.kind = OTHER;
@@ -1073,6 +1070,7 @@ public final class RoundReckoner {
 
         /** Reads from behind the VARIABLE at a GOAL'S beginning on. */
         private boolean readComparison(Goal goal, long variable, int place) {
+            goal.start(SAME, 0L, place);
             return readSign(goal) && putKnown(goal, variable, place) && readValue(goal);
         }
 
