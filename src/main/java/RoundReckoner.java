@@ -93,7 +93,7 @@ public final class RoundReckoner {
         nextAnswers = new Answers();
     }
 
-    public int feed(int a, int b, int c, int d, int e) {
+    public int feed(int a, int b, int c, int d, int e) throws IndexOutOfBoundsException {
         if (reader.length + FED_BYTES > TAPE_BYTES) {
             throw new IndexOutOfBoundsException();
         }
@@ -105,7 +105,7 @@ public final class RoundReckoner {
         return reader.length;
     }
 
-    public int end(int n) {
+    public int end(int n) throws IllegalArgumentException {
         if (n < 0 || n > reader.length) {
             throw new IllegalArgumentException();
         }
@@ -161,7 +161,7 @@ public final class RoundReckoner {
         return 1;
     }
 
-    public int drop(int r) {
+    public int drop(int r) throws IndexOutOfBoundsException {
         if (r < 0 || r >= clauses.ruleCount) {
             throw new IndexOutOfBoundsException();
         }
@@ -170,7 +170,7 @@ public final class RoundReckoner {
         return clauses.ruleCount;
     }
 
-    public int run() {
+    public int run() throws UnsupportedOperationException, ArithmeticException, IndexOutOfBoundsException {
         forget();
         if (!clauses.layOut()) {
             throw new UnsupportedOperationException();
@@ -188,7 +188,8 @@ public final class RoundReckoner {
         return tuples.count;
     }
 
-    public int tuple(int i, int what) {
+    public int tuple(int i, int what)
+        throws IllegalArgumentException, IllegalStateException, IndexOutOfBoundsException {
         if (what < 0 || what >= ASPECTS) {
             throw new IllegalArgumentException();
         }
@@ -233,7 +234,7 @@ public final class RoundReckoner {
         return isNumber(value) ? (int) value : NAME_ANSWER + (int) (value - NAME_BASE);
     }
 
-    public int why(int i, int k) {
+    public int why(int i, int k) throws IllegalStateException, IndexOutOfBoundsException {
         needTuple(i);
         if (k < 0 || k >= tuples.tookCounts[i]) {
             throw new IndexOutOfBoundsException();
@@ -241,7 +242,7 @@ public final class RoundReckoner {
         return tuples.took[i * GOALS + k];
     }
 
-    public int show(int i) {
+    public int show(int i) throws IllegalStateException, IndexOutOfBoundsException {
         needTuple(i);
         int predicate = tuples.predicates[i];
         out.clear();
@@ -259,7 +260,7 @@ public final class RoundReckoner {
         return out.count;
     }
 
-    public int find() {
+    public int find() throws IllegalStateException {
         if (!ran) {
             reader.empty();
             throw new IllegalStateException();
@@ -280,7 +281,7 @@ public final class RoundReckoner {
         return tuples.numberOf(scratch.head.predicate);
     }
 
-    public int ask() {
+    public int ask() throws IllegalStateException, ArithmeticException {
         if (!ran) {
             reader.empty();
             throw new IllegalStateException();
@@ -302,7 +303,7 @@ public final class RoundReckoner {
         return answers.ways;
     }
 
-    public int answer(int i, int k) {
+    public int answer(int i, int k) throws IndexOutOfBoundsException {
         if (i < 0 || i >= Math.min(answers.ways, ANSWERS)) {
             throw new IndexOutOfBoundsException();
         }
@@ -312,7 +313,7 @@ public final class RoundReckoner {
         return answerOf(answers.values[i * VARIABLES + k]);
     }
 
-    public int layer(int p) {
+    public int layer(int p) throws IllegalStateException, IndexOutOfBoundsException {
         needRun();
         if (p < 0 || p >= clauses.predicateCount) {
             throw new IndexOutOfBoundsException();
@@ -320,20 +321,18 @@ public final class RoundReckoner {
         return clauses.layers[p];
     }
 
-    public long word(int i) {
+    public long word(int i) throws IndexOutOfBoundsException {
         if (i < 0 || i >= out.count) {
             throw new IndexOutOfBoundsException();
         }
         long bytes = 0;
         for (int k = 0; k < 8; k++) {
-            // Written so that i + k can't pass the greatest int.
-            int here = k < out.count - i ? out.bytes[i + k] : 0;
-            bytes = bytes << 8 | here;
+            bytes = bytes << 8 | (i + k < out.count ? out.bytes[i + k] : 0);
         }
         return bytes;
     }
 
-    public int count(int what) {
+    public int count(int what) throws IllegalArgumentException {
         if (what < 0 || what >= COUNTS) {
             throw new IllegalArgumentException();
         }

@@ -561,6 +561,11 @@ public final class PromisesTest {
         Checks.due("word 10", x.word(10), 0x2900000000000000L);
         Checks.due("word 9", x.word(9), 0x3429000000000000L);
         Checks.dueThrow("word 11", INDEX, () -> x.word(11));
+        RoundReckoner y = Checks.ranOf("p(abcdefghijkl). p(1).");
+        y.show(0);
+        y.show(1);
+        Checks.due("zeros behind a shorter text", y.word(0), 0x7028312900000000L);
+        Checks.dueThrow("behind the shorter text", INDEX, () -> y.word(4));
         Checks.dueThrow("word -1", INDEX, () -> x.word(-1));
         Checks.dueThrow("word greatest", INDEX, () -> x.word(Integer.MAX_VALUE));
         Checks.dueThrow("word least", INDEX, () -> x.word(Integer.MIN_VALUE));
