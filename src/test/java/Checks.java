@@ -125,6 +125,77 @@ final class Checks {
         return text.toString();
     }
 
+    /** The PLACE that a text marks by ^ ahead of the byte, or at the end if something lacks. */
+    static int place(String marked) {
+        return marked.indexOf('^');
+    }
+
+    static String unmarked(String marked) {
+        return marked.replace("^", "");
+    }
+
+    /** FACTS name(from). to name(to - 1). */
+    static String facts(String name, int from, int to) {
+        StringBuilder text = new StringBuilder();
+        for (int k = from; k < to; k++) {
+            text.append(name).append('(').append(k).append(").");
+        }
+        return text.toString();
+    }
+
+    static String times(int many, String text) {
+        StringBuilder all = new StringBuilder();
+        for (int k = 0; k < many; k++) {
+            all.append(text);
+        }
+        return all.toString();
+    }
+
+    /** What a call answers, or the name of what it throws. */
+    static String said(Call call) {
+        try {
+            return Long.toString(call.answer());
+        } catch (RuntimeException e) {
+            return e.getClass().getSimpleName().replace("Exception", "");
+        }
+    }
+
+    /**
+     * All that a small object shows of itself, but for THE TAPE'S length: what a refused call has to leave as it was.
+     * Some 200 calls.
+     */
+    static String state(RoundReckoner x) {
+        StringBuilder all = new StringBuilder();
+        for (int what = 1; what <= 9; what++) {
+            int w = what;
+            all.append(said(() -> x.count(w))).append(' ');
+        }
+        all.append('[').append(out(x)).append("] ");
+        for (int i = 0; i <= Math.min(x.count(5), 8); i++) {
+            int t = i;
+            for (int what = 0; what <= 8; what++) {
+                int w = what;
+                all.append(said(() -> x.tuple(t, w))).append(' ');
+            }
+            for (int k = 0; k <= 2; k++) {
+                int atom = k;
+                all.append(said(() -> x.why(t, atom))).append(' ');
+            }
+        }
+        for (int p = 0; p <= Math.min(x.count(4), 6); p++) {
+            int q = p;
+            all.append(said(() -> x.layer(q))).append(' ');
+        }
+        for (int i = 0; i <= 3; i++) {
+            int way = i;
+            for (int k = 0; k <= 2; k++) {
+                int variable = k;
+                all.append(said(() -> x.answer(way, variable))).append(' ');
+            }
+        }
+        return all.toString();
+    }
+
     static void finish(String name) {
         System.out.println(name + ": " + looked + " answers looked at, " + wrong + " wrong");
         if (wrong > 0) {

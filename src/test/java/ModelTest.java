@@ -12,6 +12,7 @@ public final class ModelTest {
     private final RoundReckoner real = new RoundReckoner();
     private final Model model = new Model();
     private final StringBuilder log = new StringBuilder();
+    /** An object is used for at most 512 calls. */
     private int calls;
 
     private ModelTest(long seed) {
@@ -57,7 +58,7 @@ public final class ModelTest {
     private void play() {
         int before = Checks.wrong;
         tell(10 + pick(20));
-        while (calls < 480 && Checks.wrong == before) {
+        while (calls < 420 && Checks.wrong == before) {
             if (ran() || pick(3) == 0) {
                 step();
             } else {
@@ -68,6 +69,7 @@ public final class ModelTest {
     }
 
     private boolean ran() {
+        calls++;
         return outcome(() -> real.layer(-1)).equals("IndexOutOfBoundsException");
     }
 
@@ -136,6 +138,7 @@ public final class ModelTest {
     private void lookAtAll(int times) {
         counts();
         int size = Math.max(3, real.count(5));
+        calls++;
         for (int n = 0; n < times; n++) {
             // The last ones came of rules.
             int i = pick(3) == 0 ? pick(size + 2) - 1 : size - 1 - pick(Math.min(size, 10));
@@ -158,8 +161,7 @@ public final class ModelTest {
     private void put(String text) {
         log.append("text ").append(text).append('\n');
         byte[] bytes = text.getBytes(StandardCharsets.ISO_8859_1);
-        real.end(0);
-        model.end(0);
+        same("end 0", () -> real.end(0), () -> model.end(0));
         for (int at = 0; at < bytes.length; at += 20) {
             int[] f = new int[5];
             for (int k = 0; k < 20; k++) {

@@ -348,18 +348,10 @@ public final class PromisesTest {
         RoundReckoner most = Checks.toldOf(digits + "h(A,B,C,# count) :- d(A), d(B), d(C), d(D), D < 2.");
         Checks.due("1000 rows", most.run(), 1010);
         String rows = "h(A,B,C,# min N) :- a(A), b(B), c(C), n(N). n(x). g(# min N) :- n(N).";
-        RoundReckoner fit = Checks.toldOf(facts("a", 10) + facts("b", 10) + facts("c", 20) + rows);
+        RoundReckoner fit = Checks.toldOf(Checks.facts("a", 0, 10) + Checks.facts("b", 0, 10) + Checks.facts("c", 0, 20) + rows);
         Checks.due("2000 rows, none with a number", fit.run(), 41);
-        RoundReckoner over = Checks.toldOf(facts("a", 3) + facts("b", 23) + facts("c", 29) + rows);
+        RoundReckoner over = Checks.toldOf(Checks.facts("a", 0, 3) + Checks.facts("b", 0, 23) + Checks.facts("c", 0, 29) + rows);
         Checks.dueThrow("2001 rows", INDEX, over::run);
-    }
-
-    private static String facts(String name, int many) {
-        StringBuilder text = new StringBuilder();
-        for (int k = 0; k < many; k++) {
-            text.append(name).append('(').append(k).append(").");
-        }
-        return text.toString();
     }
 
     private static void tuple() {
@@ -482,7 +474,7 @@ public final class PromisesTest {
     }
 
     private static void askLimits() {
-        RoundReckoner x = Checks.ranOf(facts("d", 50) + "one(1).");
+        RoundReckoner x = Checks.ranOf(Checks.facts("d", 0, 50) + "one(1).");
         Checks.due("ask of 2500", Checks.ask(x, "d(X), d(Y)"), 2500);
         Checks.due("STEPS", x.count(6), 2550);
         Checks.dueThrow("ask too much", ARITHMETIC, () -> Checks.ask(x, "d(X), d(Y), d(Z), d(some) "));
