@@ -584,17 +584,22 @@ public final class RunEdgesTest {
     /** Rows that differ in one ARG alone stay apart, however many there are. */
     private static void manyRows() {
         String[] heads = {"r(A,B,# count)", "r(# count,B,A)", "r(A,5,B,# sum C)", "r(B,# max C,A,A)"};
-        for (String head : heads) {
-            RoundReckoner x = Checks.ranOf(Checks.facts("v", 0, 44) + "c(1). " + head + " :- v(A), v(B), c(C).");
-            Checks.due("TUPLES of " + head, x.count(5), 45 + 44 * 44);
-            String one = head.replaceAll("# [a-z]+( C)?", "1").replace("A", "X").replace("B", "Y");
-            Checks.due("each of " + head, Checks.ask(x, one), 44 * 44);
-            for (int i = 45; i < 45 + 44 * 44; i += 97) {
-                int a = (i - 45) / 44;
-                int b = (i - 45) % 44;
+        String[] tallies = {"2", "2", "5", "4"};
+        for (int h = 0; h < heads.length; h++) {
+            String head = heads[h];
+            RoundReckoner x = Checks.ranOf(Checks.facts("v", 0, 43) + "c(1). c(4). " + head + " :- v(A), v(B), c(C).");
+            Checks.due("TUPLES of " + head, x.count(5), 45 + 43 * 43);
+            String one = head.replaceAll("# [a-z]+( C)?", tallies[h]).replace("A", "X").replace("B", "Y");
+            Checks.due("each of " + head, Checks.ask(x, one), 43 * 43);
+            for (int i = 45; i < 45 + 43 * 43; i += 97) {
+                int a = (i - 45) / 43;
+                int b = (i - 45) % 43;
                 Checks.due("row " + i + " of " + head, Checks.find(x, one.replace("X", "" + a).replace("Y", "" + b)), i);
             }
         }
+        RoundReckoner y = Checks.ranOf("n(0). n(N) :- n(M), N is M + 1, N < 999. c(1). c(4). r(A,# count) :- c(_), n(A).");
+        Checks.due("TUPLES of one ARG", y.count(5), 2000);
+        Checks.due("each of one ARG", Checks.ask(y, "r(_,2)"), 999);
     }
 
     /** "or rows of one #". */
